@@ -291,10 +291,10 @@ public final class GuardNet {
                 return null;
             }
             Clause clause = new Clause(head);
-            if (pass(':') && !readGuards(clause.guards)) {
+            if (pass(':') && !readItems(clause.guards, true)) {
                 return null;
             }
-            if (pass('|') && !readGoals(clause.goals)) {
+            if (pass('|') && !readItems(clause.goals, false)) {
                 return null;
             }
             return at == length ? clause : null;
@@ -303,30 +303,16 @@ public final class GuardNet {
         ArrayList<Item> readQuestion() {
             at = 0;
             ArrayList<Item> goals = new ArrayList<>();
-            return readGoals(goals) && at == length ? goals : null;
+            return readItems(goals, false) && at == length ? goals : null;
         }
 
-        private boolean readGuards(ArrayList<Item> guards) {
+        private boolean readItems(ArrayList<Item> items, boolean asGuards) {
             for (int k = 0; k < LONGEST_TEXT; k++) {
-                Item guard = readGuard();
-                if (guard == null) {
+                Item item = asGuards ? readGuard() : readGoal();
+                if (item == null) {
                     return false;
                 }
-                guards.add(guard);
-                if (!pass(',')) {
-                    return true;
-                }
-            }
-            return false;
-        }
-
-        private boolean readGoals(ArrayList<Item> goals) {
-            for (int k = 0; k < LONGEST_TEXT; k++) {
-                Item goal = readGoal();
-                if (goal == null) {
-                    return false;
-                }
-                goals.add(goal);
+                items.add(item);
                 if (!pass(',')) {
                     return true;
                 }
@@ -764,7 +750,7 @@ public final class GuardNet {
         }
 
         /** The TERM as a node; VARIABLES that weren't met come to be, in the text's order. */
-        Node build(Term term) {
+        private Node build(Term term) {
             if (term.kind == VARIABLE) {
                 if (!isMet(term.value)) {
                     meet(term.value, store.makeVariable());

@@ -57,7 +57,7 @@ public final class TooMuchTest {
     private static void goalsWithVariables() {
         Net x = Net.of("q(X)|q(Y),q(X),q(Z),q(W)").question("q(1)");
         Net.due("61", Net.STATE, () -> x.net.run(100));
-        // 19 uses bring 3 VARIABLES each and leave 58; the 20th puts Y, X and 60 is reached.
+        // 19 uses leave 58 GOALS; the 20th takes one and puts three of its four.
         Net.due("60 are put", "20 60", x.net.count(3) + " " + x.net.count(4));
     }
 
