@@ -44,6 +44,22 @@ final class Net {
         return this;
     }
 
+    /** How a new object reads the text as a CLAUSE: add()'s answer, or where it's bad. */
+    static String asClause(String text) {
+        Net x = new Net().text(text);
+        return x.placeIfBad(answerOf(() -> x.net.add()));
+    }
+
+    /** How a new object reads the text as a QUESTION: ask()'s answer, or where it's bad. */
+    static String asQuestion(String text) {
+        Net x = new Net().text(text);
+        return x.placeIfBad(answerOf(() -> x.net.ask()));
+    }
+
+    private String placeIfBad(String answer) {
+        return answer.equals(BAD) ? "bad at " + net.count(0) : answer;
+    }
+
     /** Runs until nothing is left to do; what ended it, or the exception's name. */
     String outcome() {
         for (int k = 0; k < 10; k++) {
@@ -85,6 +101,27 @@ final class Net {
             text.append(level == 0 ? "" : " ").append(net.count(10 + level));
         }
         return text.toString();
+    }
+
+    /** All that can be asked without a change: each count, VARIABLE and sleeper. */
+    String all() {
+        StringBuilder text = new StringBuilder("counts");
+        for (int what = 0; what <= 13; what++) {
+            text.append(' ').append(net.count(what));
+        }
+        for (char variable = 'A'; variable <= 'Z'; variable++) {
+            int sleepers = sleepers(variable);
+            if (sleepers >= 0) {
+                text.append(' ').append(variable).append('=').append(shows(variable));
+                text.append(" with ").append(sleepers);
+            }
+        }
+        return text.toString();
+    }
+
+    long drop(int i) {
+        net.drop(i);
+        return 0;
     }
 
     static String answerOf(Call call) {
