@@ -16,6 +16,7 @@ public final class EdgesOfPairsTest {
         sameWritesTheLast();
         onePair();
         threeAtOnce();
+        downTheFirstOfThree();
         eachHasItsOwn();
         eachMetHasItsOwn();
         otherClauses();
@@ -119,6 +120,22 @@ public final class EdgesOfPairsTest {
         Net.due("no end, two left behind by each", Net.STATE, outcome(x));
         x.question("A=f(A,1,1),B=f(B,1,1),A=B");
         Net.due("the same", Net.STATE, x.outcome());
+    }
+
+    /** "from the first on, each wholly": the ends come before all the 1s, at the Nth + 1. */
+    private static void downTheFirstOfThree() {
+        for (int many = 58; many <= 60; many++) {
+            boolean few = many + 1 <= 60;
+            for (String clause : new String[] {IS, ISNT, MET, SAME}) {
+                Net x = Net.of("k(0,L,E)|L=E", "k(N,L,E):0<N|L=c(T,1,1),M#N-1,k(M,T,E)", clause);
+                x.question("k(" + many + ",A,n),k(" + many + ",B,m),g(A,B,R)^0");
+                String seen = clause.equals(ISNT) ? "R=1" : Net.FAILED;
+                Net.due(clause + ", not alike at " + (many + 1), few ? seen : Net.STATE,
+                        outcome(x));
+                x.question("k(" + many + ",A,n),k(" + many + ",B,n),g(A,B,R)^0");
+                Net.due(clause + ", and alike there", Net.STATE, outcome(x));
+            }
+        }
     }
 
     /** "in a GUARD": each has its own 60. */
