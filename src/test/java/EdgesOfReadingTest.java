@@ -1,12 +1,8 @@
-import java.util.regex.Matcher;
-import java.util.regex.Pattern;
-
 /**
  * "THE PLACE is that of the first character with which, after those before, nothing right
  * could begin, or the length, if just the end is wrong. (At depth 5 ( is such.)"
  *
- * What is right is written here once more, as a pattern, which can tell of any beginning
- * whether something right could begin so.
+ * What is right is written once more in Grammar, as a pattern.
  */
 public final class EdgesOfReadingTest {
     private static final String[] CLAUSES = {
@@ -18,9 +14,6 @@ public final class EdgesOfReadingTest {
         "a", "a^2", "a(1,B,12)^3,c", "A=B", "12=a,b(1)=C", "A#1+2", "A#12-B,C#d(1)*e",
         "a,b,c^1,D=1", "a(b(c(d(e,12,F)),1)),g", "A=b(c(d(e(f))))", "A#b(c(d(e(1))))+b(c(d(e(2))))"
     };
-
-    private static final Matcher CLAUSE = Pattern.compile(clause()).matcher("");
-    private static final Matcher QUESTION = Pattern.compile(goals()).matcher("");
 
     // A text takes nine calls at most, and an object is good for 512.
     private static final int TEXTS_FOR_AN_OBJECT = 50;
@@ -40,53 +33,13 @@ public final class EdgesOfReadingTest {
         Net.end();
     }
 
-    private static String term(int depth) {
-        if (depth == 5) {
-            return "(?:[A-Z]|[0-9][0-9]?|[a-z])";
-        }
-        String part = term(depth + 1);
-        String parts = "\\(" + part + "(?:," + part + "(?:," + part + ")?)?\\)";
-        return "(?:[A-Z]|[0-9][0-9]?|[a-z](?:" + parts + ")?)";
-    }
-
-    private static String call() {
-        String part = term(2);
-        return "[a-z](?:\\(" + part + "(?:," + part + "(?:," + part + ")?)?\\))?";
-    }
-
-    private static String goals() {
-        String goal = "(?:" + term(1) + "=" + term(1)
-                + "|[A-Z]#" + term(1) + "[-+*]" + term(1)
-                + "|" + call() + "(?:\\^[0-3])?)";
-        return goal + "(?:," + goal + ")*";
-    }
-
-    private static String clause() {
-        String guard = term(1) + "[<=~]" + term(1);
-        return call() + "(?::" + guard + "(?:," + guard + ")*)?(?:\\|" + goals() + ")?";
-    }
-
-    private static String dueOf(Matcher matcher, String text) {
-        if (matcher.reset(text).matches()) {
-            return "right";
-        }
-        // Whatever begins something right has only such beginnings itself.
-        int good = 0;
-        int bad = text.length() + 1;
-        while (good + 1 < bad) {
-            int size = (good + bad) / 2;
-            if (matcher.reset(text.substring(0, size)).matches() || matcher.hitEnd()) {
-                good = size;
-            } else {
-                bad = size;
-            }
-        }
-        return "bad at " + good;
+    private static String dueOf(Grammar grammar, String text) {
+        return grammar.isRight(text) ? "right" : "bad at " + grammar.place(text);
     }
 
     private static void look(String text, boolean asked) {
         Net.due((asked ? "the QUESTION " : "the CLAUSE ") + text,
-                dueOf(asked ? QUESTION : CLAUSE, text), answerTo(text, asked));
+                dueOf(grammar(asked), text), answerTo(text, asked));
     }
 
     private static String answerTo(String text, boolean asked) {
@@ -109,21 +62,25 @@ public final class EdgesOfReadingTest {
         look(text, true);
     }
 
+    private static Grammar grammar(boolean asked) {
+        return asked ? Grammar.QUESTION : Grammar.CLAUSE;
+    }
+
     private static String[] texts(boolean asked) {
         return asked ? QUESTIONS : CLAUSES;
     }
 
     /** What the document says in words must be what the pattern says. */
     private static void words() {
-        Net.due("( at depth 5", "bad at 9", dueOf(CLAUSE, "a(b(c(d(e("));
-        Net.due("just the end", "bad at 9", dueOf(CLAUSE, "a(b(c(d(e"));
-        Net.due("no text", "bad at 0", dueOf(CLAUSE, ""));
-        Net.due("no text", "bad at 0", dueOf(QUESTION, ""));
-        Net.due("a third digit", "bad at 2", dueOf(QUESTION, "123=a"));
-        Net.due("a fourth ARGUMENT", "bad at 7", dueOf(CLAUSE, "a(1,2,3,4)"));
+        Net.due("( at depth 5", "bad at 9", dueOf(Grammar.CLAUSE, "a(b(c(d(e("));
+        Net.due("just the end", "bad at 9", dueOf(Grammar.CLAUSE, "a(b(c(d(e"));
+        Net.due("no text", "bad at 0", dueOf(Grammar.CLAUSE, ""));
+        Net.due("no text", "bad at 0", dueOf(Grammar.QUESTION, ""));
+        Net.due("a third digit", "bad at 2", dueOf(Grammar.QUESTION, "123=a"));
+        Net.due("a fourth ARGUMENT", "bad at 7", dueOf(Grammar.CLAUSE, "a(1,2,3,4)"));
         for (boolean asked : new boolean[] {false, true}) {
             for (String text : texts(asked)) {
-                Net.due(text, "right", dueOf(asked ? QUESTION : CLAUSE, text));
+                Net.due(text, "right", dueOf(grammar(asked), text));
                 look(text, asked);
             }
         }
